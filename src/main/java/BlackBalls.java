@@ -301,7 +301,7 @@ public final class BlackBalls {
                 ownWhite += (TENTHS - own) * tally.waysTo(counted);
             }
         }
-        return (int) lowestOrNone(ownBlack, ownBlack + ownWhite, part);
+        return (int) lowest(ownBlack, ownBlack + ownWhite, part);
     }
 
     public int heard(int rule, int candidate, int comers, int member, int right, boolean black, int part) {
@@ -317,7 +317,7 @@ public final class BlackBalls {
         int heardIfBlack = black ? right : TENTHS - right;
         int didAndHeard = own * heardIfBlack;
         int didNotAndHeard = (TENTHS - own) * (TENTHS - heardIfBlack);
-        return (int) lowestOrNone(didAndHeard, didAndHeard + didNotAndHeard, part);
+        return (int) lowest(didAndHeard, didAndHeard + didNotAndHeard, part);
     }
 
     public int sway(int rule, int candidate, int comers) {
@@ -804,16 +804,13 @@ public final class BlackBalls {
         return larger;
     }
 
+    /** NONE: 0 of 0, as what is asked of cannot be. */
     private static long lowest(long above, long below, int part) {
         long divisor = commonDivisor(above, below);
         if (divisor == 0) {
             return NONE;
         }
         return (part == 0 ? above : below) / divisor;
-    }
-
-    private static long lowestOrNone(long above, long below, int part) {
-        return below == 0 ? NONE : lowest(above, below, part);
     }
 
     /** THE PAGE. */
