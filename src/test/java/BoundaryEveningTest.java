@@ -30,6 +30,7 @@ public final class BoundaryEveningTest extends Boundary {
         largeByNobody();
         largeBySureOnes();
         largeByQuorum();
+        largeByBlackOnes();
         largeFearedCountAll();
         largeOfEight();
         largeTwice();
@@ -45,6 +46,7 @@ public final class BoundaryEveningTest extends Boundary {
         heardCannotBe();
         swayOfTheOnlyOne();
         swayOfLikeOnes();
+        swayBySize();
         swayByQuorum();
         wordLessThan();
         wordOfEight();
@@ -404,6 +406,19 @@ public final class BoundaryEveningTest extends Boundary {
         fraction("the eighth comes in 9 of 10", eight.large(0, 0, 0), eight.large(0, 0, 1), 9, 10);
     }
 
+    private static void largeByBlackOnes() {
+        sentence(17, "AT LARGE, by BLACKS black ones or more, by RATIO");
+        BlackBalls x = sureBlacks(7, "b1q0y", "b3q0y", "b8q0y", "r2q0y");
+        int[][] want = {{0, 1}, {3, 4}, {1, 1}, {0, 1}};
+        for (int member = 0; member < 8; member++) {
+            x.comes(member, member == 0 ? 10 : member < 3 ? 5 : 0);
+        }
+        // One to three come, and all of them put a black one.
+        for (int rule = 0; rule < 4; rule++) {
+            fraction("rule " + rule, x.large(rule, 0, 0), x.large(rule, 0, 1), want[rule][0], want[rule][1]);
+        }
+    }
+
     private static void largeFearedCountAll() {
         sentence(17, "but FEARED ones count all MEMBERS as come");
         for (int members = 2; members <= 8; members++) {
@@ -591,6 +606,23 @@ public final class BoundaryEveningTest extends Boundary {
         due("the sixth and seventh alike", x.sway(0, 0, 255), 5);
     }
 
+    private static void swayBySize() {
+        sentence(22, "is another one most (by size)");
+        BlackBalls less = sevenMind(5, "r2q0y");
+        // Of three two black ones shut out, of two one does: 0.75, without the friend 0.25, without another one 0.5.
+        due("less by 0.5, less by 0.25", less.sway(0, 0, 131), 7);
+        BlackBalls more = withMembers(8, "b7q0y");
+        more.candidate(0);
+        for (int member = 1; member < 8; member++) {
+            more.minds(member, 0, 1);
+        }
+        due("more by one of 10 to the 7, or not at all", more.sway(0, 0, 255), 1);
+        BlackBalls close = sevenMind(1, "r2q0y");
+        close.minds(5, 0, 0);
+        // Of seven four shut out, of six three do: less by 0.0081 without the one who does not mind, else by 0.00324.
+        due("less by a little, or by less", close.sway(0, 0, 191), 5);
+    }
+
     private static void swayByQuorum() {
         sentence(22, "SWAY: the COMER without whom IN is another one most");
         due("each is needed for the quorum", sevenMind(0, "b8q8y").sway(0, 0, 255), 0);
@@ -698,7 +730,8 @@ public final class BoundaryEveningTest extends Boundary {
         sentence(25, "(no ROUND, if fewer than QUORUM came); NONE: there was none");
         for (int quorum = 0; quorum <= 8; quorum++) {
             BlackBalls x = sureBlacks(0, "b1q" + quorum + "y", "b1q" + quorum + "tc");
-            for (int came = 1; came <= 8; came++) {
+            // Those with a quorum first, so that nothing of them is left for those without.
+            for (int came = 8; came >= 1; came--) {
                 boolean held = came >= quorum;
                 for (int rule = 0; rule < 2; rule++) {
                     String call = came + " came of quorum " + quorum + ", rule " + rule;

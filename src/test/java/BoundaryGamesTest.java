@@ -18,6 +18,7 @@ public final class BoundaryGamesTest extends Boundary {
         noYears();
         yearsBelowQuorum();
         yearsJustAtQuorum();
+        yearsThatLoseTheQuorum();
         yearsByNobody();
         yearsByTastes();
         yearsTwice();
@@ -299,6 +300,22 @@ public final class BoundaryGamesTest extends Boundary {
                 tastes |= 1 << drawn(5, came > 0 ? 8 + 8 * (came - 1) + 1 : years + i + 1);
             }
             due("unlike tastes behind " + years, x.years(0, years, 5, 1), Integer.bitCount(tastes));
+        }
+    }
+
+    private static void yearsThatLoseTheQuorum() {
+        sentence(29, "LET IN by the RULE, if QUORUM or more came; a year behind one that let in");
+        for (int seed = 0; seed < 100; seed++) {
+            BlackBalls x = withRules("b4q7y");
+            int kept = 0;
+            while (kept < 60 && x.years(0, kept + 1, seed, 0) == 8) {
+                kept++;
+            }
+            // The year behind those shut one out: there are six to come, and nobody is let in any more.
+            for (int years = kept + 1; years <= Math.min(60, kept + 9); years++) {
+                due("seed " + seed + ", people behind " + years, x.years(0, years, seed, 0), Math.max(0, 8 - years + kept));
+                due("seed " + seed + ", let in behind " + years, x.years(0, years, seed, 2), kept);
+            }
         }
     }
 

@@ -1,7 +1,7 @@
 import java.util.function.Supplier;
 import java.util.function.ToLongFunction;
 
-/** What the tests of the boundary cases share: each names the document's sentence ahead of what it asks. */
+/** What the tests of the boundary cases share: each tells the document's sentence, in short, ahead of what it asks. */
 abstract class Boundary {
     static final int NONE = -1, UNKNOWN = -101, OUTSIDE = -102, STATE = -103, FULL = -104;
 
