@@ -53,12 +53,19 @@ public final class RefusalTest extends Boundary {
             comers = new Given("comers", 1, (1 << members) - 1, OUTSIDE);
         }
 
-        private boolean isFull() {
-            return member.most == 7;
-        }
-
         private BlackBalls club() {
-            return isFull() ? fullClub() : someClub();
+            switch (member.most) {
+                case NONE:
+                    return new BlackBalls();
+                case 0:
+                    BlackBalls x = withMembers(1, "b1q0ty");
+                    x.candidate(0);
+                    return x;
+                case 4:
+                    return someClub();
+                default:
+                    return fullClub();
+            }
         }
     }
 
@@ -69,7 +76,7 @@ public final class RefusalTest extends Boundary {
     private static final Given PART = outside("part", 0, 1);
 
     public static void main(String[] args) {
-        for (Size size : new Size[] {new Size(2, 5, 3), new Size(6, 8, 6)}) {
+        for (Size size : new Size[] {new Size(0, 0, 0), new Size(1, 1, 1), new Size(2, 5, 3), new Size(6, 8, 6)}) {
             rulesAndMembers(size);
             changingCalls(size);
             evenings(size);
@@ -141,7 +148,7 @@ public final class RefusalTest extends Boundary {
     // ---- all cases of a call
 
     private static void call(int promise, String words, Size size, Ask ask, Given... given) {
-        sentence(promise, words + (size.isFull() ? ", of a full club" : ""));
+        sentence(promise, words + ", of " + (size.member.most + 1) + " members");
         List<int[]> cases = new ArrayList<>();
         addCases(cases, given, new int[given.length], 0);
         addFarOnes(cases, given);
