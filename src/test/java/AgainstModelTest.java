@@ -9,6 +9,7 @@ public final class AgainstModelTest {
     private static final int NONE = -1, UNKNOWN = -101, OUTSIDE = -102, STATE = -103, FULL = -104;
     private static final int RUNS = 300;
     private static final int CALLS = 512;
+    private static final int MOST_CALLS_OF_A_STEP = 3;
 
     private static final class Fraction {
         private static final Fraction ZERO = new Fraction(BigInteger.ZERO, BigInteger.ONE);
@@ -751,6 +752,7 @@ public final class AgainstModelTest {
     private final BlackBalls x = new BlackBalls();
     private final Model m = new Model();
     private final StringBuilder call = new StringBuilder();
+    private int asked = 0;
 
     private AgainstModelTest(long seed) {
         random = new Random(seed);
@@ -810,6 +812,7 @@ public final class AgainstModelTest {
     }
 
     private boolean same(String name, long got, long want) {
+        asked++;
         if (got != want) {
             System.out.println(name + call + " answered " + got + ", due is " + want);
         }
@@ -964,9 +967,9 @@ public final class AgainstModelTest {
         return group < 8 ? asking(random.nextInt(12)) : playing(random.nextInt(4));
     }
 
-    /** The first calls build, so that later ones find something. */
+    /** The first steps build, so that later ones find something; behind CALLS calls any answer would do, so it ends ahead of that. */
     private boolean run() {
-        for (int i = 0; i < CALLS - 1; i++) {
+        for (int i = 0; asked + MOST_CALLS_OF_A_STEP < CALLS; i++) {
             if (!one(i < 40 ? 0 : random.nextInt(10))) {
                 return false;
             }
