@@ -2,8 +2,9 @@ import java.util.ArrayList;
 import java.util.List;
 
 /**
- * Of each call all that is just taken and just refused: each number at both of its ends and just off them, together with all
- * the others so, and what is refused first. No refusal changes anything.
+ * Of each call that is given numbers all that is just taken and just refused: each number at both of its ends and just off
+ * them, together with all the others so, and what is refused first. No refusal changes anything. Not of letters, member and
+ * candidate: what they do when taken cannot be taken back, so the boundary tests ask them of new objects.
  */
 public final class RefusalTest extends Boundary {
     private static final int ASKED_OF_ONE_OBJECT = 60;
