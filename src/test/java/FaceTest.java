@@ -6,6 +6,7 @@ import java.lang.reflect.Modifier;
 import java.nio.file.Files;
 import java.nio.file.Path;
 import java.util.Arrays;
+import java.util.List;
 import java.util.TreeSet;
 
 /** The class shows the document's face and nothing else, and keeps to those rules of LANGUAGE.md that can be seen from outside. */
@@ -68,6 +69,7 @@ public final class FaceTest {
             int modifiers = field.getModifiers();
             if (Modifier.isPublic(modifiers)) {
                 shown.add(field.getName());
+                must(Modifier.isStatic(modifiers) && field.getType() == int.class, field.getName() + " is a constant of int");
             } else {
                 must(Modifier.isPrivate(modifiers), field.getName() + " is private");
             }
@@ -82,13 +84,42 @@ public final class FaceTest {
         must(constructors.length == 1 && constructors[0].getParameterCount() == 0
             && Modifier.isPublic(constructors[0].getModifiers()), "one public constructor");
         Class<?>[] inside = BlackBalls.class.getDeclaredClasses();
+        must(BlackBalls.class.getPackageName().isEmpty(), "the class is in no package");
         must(inside.length <= 11, "twelve classes at most");
         for (Class<?> one : inside) {
             must(Modifier.isStatic(one.getModifiers()) && !Modifier.isPublic(one.getModifiers()), one.getName() + " is static and not public");
-            for (Field field : one.getDeclaredFields()) {
-                must(!Modifier.isStatic(field.getModifiers()) || Modifier.isFinal(field.getModifiers()), field.getName() + " is final");
+            inside(one);
+        }
+    }
+
+    private static void inside(Class<?> one) {
+        int own = 0;
+        for (Field field : one.getDeclaredFields()) {
+            boolean isStatic = Modifier.isStatic(field.getModifiers());
+            must(!isStatic || Modifier.isFinal(field.getModifiers()), field.getName() + " is final");
+            own += isStatic ? 0 : 1;
+        }
+        must(own <= 20, one.getName() + " has twenty fields at most");
+        for (Method method : one.getDeclaredMethods()) {
+            must(method.getParameterCount() <= 7, method.getName() + " takes seven at most");
+            for (String signature : FACE) {
+                must(!Modifier.isPrivate(method.getModifiers()) || !signature.contains(" " + method.getName() + "("),
+                    method.getName() + " bears no public name");
             }
         }
+    }
+
+    /** Each line of the document's face stands in the source, with the names that the document gives to what a call is given. */
+    private static void asTheDocumentTells() throws IOException {
+        String source = Files.readString(Path.of("src/main/java/BlackBalls.java"));
+        List<String> lines = Files.readAllLines(Path.of("../shared/DOC.md"));
+        int told = 0;
+        for (int i = lines.indexOf("public final class BlackBalls {") + 1; i > 0 && i < lines.size() && !lines.get(i).equals("}"); i++) {
+            String line = lines.get(i).strip();
+            told++;
+            must(source.contains(line.endsWith(");") ? line.replace(";", " {") : line), "the source has " + line);
+        }
+        must(told == FACE.length + 2, "the document's face has " + (FACE.length + 2) + " lines, not " + told);
     }
 
     private static void source() throws IOException {
@@ -106,6 +137,7 @@ public final class FaceTest {
         fields();
         classes();
         source();
+        asTheDocumentTells();
         System.out.println(wrong == 0 ? "the face is the document's" : wrong + " things do not hold");
         if (wrong != 0) {
             System.exit(1);
