@@ -11,7 +11,6 @@ import java.util.List;
 import java.util.TreeSet;
 import java.util.regex.Matcher;
 import java.util.regex.Pattern;
-import javax.tools.ToolProvider;
 
 /** README.md says what is so: its examples are compiled and run, and what it tells of the tests is held beside .ci/run. */
 public final class ReadmeTest {
@@ -79,8 +78,8 @@ public final class ReadmeTest {
         Path dir = Files.createTempDirectory("readme");
         Path source = dir.resolve("Example.java");
         Files.writeString(source, program);
-        int failed = ToolProvider.getSystemJavaCompiler().run(null, null, null, "--release", "17",
-            "-cp", System.getProperty("java.class.path"), "-d", dir.toString(), source.toString());
+        int failed = new ProcessBuilder("javac", "--release", "17", "-cp", System.getProperty("java.class.path"),
+            "-d", dir.toString(), source.toString()).inheritIO().start().waitFor();
         must(failed == 0, "the examples of README.md compile");
         if (failed == 0) {
             try (URLClassLoader loader = new URLClassLoader(new URL[] {dir.toUri().toURL()}, ReadmeTest.class.getClassLoader())) {
