@@ -7,7 +7,7 @@ import java.util.Random;
 /** Long runs of calls by fixed seeds, wrong inputs among them, each answer against a slow model that tries all cases one by one. */
 public final class AgainstModelTest {
     private static final int NONE = -1, UNKNOWN = -101, OUTSIDE = -102, STATE = -103, FULL = -104;
-    private static final int RUNS = 300;
+    private static final int RUNS = 1000;
     private static final int CALLS = 512;
     private static final int MOST_CALLS_OF_A_STEP = 3;
 
@@ -785,8 +785,30 @@ public final class AgainstModelTest {
         return pick(0, m.friends.size() - 1);
     }
 
+    /** Now and then of three at most, as FEARED ones then fear. */
     private int pickComers() {
-        return pick(1, (1 << m.members.size()) - 1);
+        if (m.members.isEmpty() || random.nextInt(3) > 0) {
+            return pick(1, (1 << m.members.size()) - 1);
+        }
+        int few = 0;
+        for (int i = 0; i < 3; i++) {
+            few |= 1 << random.nextInt(m.members.size());
+        }
+        call.append(' ').append(few);
+        return few;
+    }
+
+    /** Mostly one of those who came. */
+    private int pickComer(int comers) {
+        int member = random.nextInt(8);
+        for (int i = 0; i < 8 && (comers >> member & 1) == 0; i++) {
+            member = (member + 1) % 8;
+        }
+        if (random.nextInt(4) == 0 || (comers >> member & 1) == 0) {
+            return pickMember();
+        }
+        call.append(' ').append(member);
+        return member;
     }
 
     private int pickSeed() {
@@ -890,10 +912,10 @@ public final class AgainstModelTest {
         int a, b;
         switch (which) {
             case 0:
-                a = pickMember();
+                a = pickComer(s);
                 return same("black", x.black(r, c, s, a), m.black(r, c, s, a));
             case 1:
-                a = pick(0, 8);
+                a = pick(0, random.nextBoolean() ? 8 : Integer.bitCount(s));
                 return same("balls", x.balls(r, c, s, a, p), m.balls(r, c, s, a, p));
             case 2:
                 return same("in", x.in(r, c, s, p), m.in(r, c, s, p));
@@ -904,11 +926,11 @@ public final class AgainstModelTest {
             case 5:
                 return same("best", x.best(s), m.best(s));
             case 6:
-                a = pickMember();
-                b = pick(-1, 8);
+                a = pickComer(s);
+                b = pick(-1, random.nextBoolean() ? 8 : Integer.bitCount(s));
                 return same("who", x.who(r, c, s, a, b, p), m.who(r, c, s, a, b, p));
             case 7:
-                a = pickMember();
+                a = pickComer(s);
                 b = pick(0, 10);
                 boolean black = random.nextBoolean();
                 return same("heard", x.heard(r, c, s, a, b, black, p), m.heard(r, c, s, a, b, black, p));
@@ -969,8 +991,9 @@ public final class AgainstModelTest {
 
     /** The first steps build, so that later ones find something; behind CALLS calls any answer would do, so it ends ahead of that. */
     private boolean run() {
+        int first = 10 + random.nextInt(40);
         for (int i = 0; asked + MOST_CALLS_OF_A_STEP < CALLS; i++) {
-            if (!one(i < 40 ? 0 : random.nextInt(10))) {
+            if (!one(i < first ? 0 : random.nextInt(10))) {
                 return false;
             }
         }

@@ -6,21 +6,26 @@ import java.lang.reflect.Modifier;
 import java.nio.file.Files;
 import java.nio.file.Path;
 import java.util.Arrays;
-import java.util.List;
 import java.util.TreeSet;
 
 /** The class shows the document's face and nothing else, and keeps to those rules of LANGUAGE.md that can be seen from outside. */
 public final class FaceTest {
     private static final String[] FACE = {
-        "int letters(long)", "int blank()", "int fault()", "int rule()", "int ruleTold(int,int)",
-        "int member(int,int,int)", "int as(int,int)", "int about(int,int)", "int comes(int,int)", "int candidate(int)",
-        "int minds(int,int,int)", "int friend(int,int)",
-        "int black(int,int,int,int)", "int balls(int,int,int,int,int)", "long in(int,int,int,int)", "long large(int,int,int)",
-        "long wrong(int,int)", "int best(int)", "int who(int,int,int,int,int,int)",
-        "int heard(int,int,int,int,int,boolean,int)", "int sway(int,int,int)", "int word(int,int,int)",
-        "long seen(int,int,int,int)", "int evening(int,int,int,int,int)",
-        "int trade(int,int,int,int,int)", "int veto(int,int,int)", "long worth(int,int,int)", "int years(int,int,int,int)",
-        "int lot(int,int)", "int image()", "int restore()", "int count(int)", "long digest()"};
+        "int letters(long w)", "int blank()", "int fault()", "int rule()", "int ruleTold(int rule, int what)",
+        "int member(int kind, int n, int comes)", "int as(int member, int kind)", "int about(int member, int what)",
+        "int comes(int member, int v)", "int candidate(int friend)", "int minds(int member, int candidate, int v)",
+        "int friend(int candidate, int what)", "int black(int rule, int candidate, int comers, int member)",
+        "int balls(int rule, int candidate, int comers, int k, int part)",
+        "long in(int rule, int candidate, int comers, int part)", "long large(int rule, int candidate, int part)",
+        "long wrong(int rule, int comers)", "int best(int comers)",
+        "int who(int rule, int candidate, int comers, int member, int k, int part)",
+        "int heard(int rule, int candidate, int comers, int member, int right, boolean black, int part)",
+        "int sway(int rule, int candidate, int comers)", "int word(int rule, int comers, int tenths)",
+        "long seen(int rule, int comers, int tenths, int part)",
+        "int evening(int rule, int candidate, int comers, int seed, int what)",
+        "int trade(int rule, int x, int y, int a, int b)", "int veto(int n, int v, int x)",
+        "long worth(int n, int v, int part)", "int years(int rule, int years, int seed, int what)",
+        "int lot(int candidate, int part)", "int image()", "int restore()", "int count(int what)", "long digest()"};
     private static final String[] CONSTANTS = {"NONE", "UNKNOWN", "OUTSIDE", "STATE", "FULL"};
 
     private static int wrong = 0;
@@ -53,7 +58,11 @@ public final class FaceTest {
                 must(!Modifier.isStatic(method.getModifiers()), method.getName() + " is of an object");
             }
         }
-        must(shown.equals(new TreeSet<>(Arrays.asList(FACE))), "the public methods are the document's, not " + shown);
+        TreeSet<String> told = new TreeSet<>();
+        for (String call : FACE) {
+            told.add(withoutNames(call));
+        }
+        must(shown.equals(told), "the public methods are the document's, " + told + ", not " + shown);
         for (Method method : BlackBalls.class.getDeclaredMethods()) {
             if (!Modifier.isPublic(method.getModifiers())) {
                 must(Modifier.isPrivate(method.getModifiers()), method.getName() + " is private");
@@ -102,30 +111,26 @@ public final class FaceTest {
         must(own <= 20, one.getName() + " has twenty fields at most");
         for (Method method : one.getDeclaredMethods()) {
             must(method.getParameterCount() <= 7, method.getName() + " takes seven at most");
-            for (String signature : FACE) {
-                must(!Modifier.isPrivate(method.getModifiers()) || !signature.contains(" " + method.getName() + "("),
+            for (String call : FACE) {
+                must(!Modifier.isPrivate(method.getModifiers()) || !call.contains(" " + method.getName() + "("),
                     method.getName() + " bears no public name");
             }
         }
     }
 
-    /** Each line of the document's face stands in the source, with the names that the document gives to what a call is given. */
-    private static void asTheDocumentTells() throws IOException {
-        String source = Files.readString(Path.of("src/main/java/BlackBalls.java"));
-        List<String> lines = Files.readAllLines(Path.of("../shared/DOC.md"));
-        int told = 0;
-        for (int i = lines.indexOf("public final class BlackBalls {") + 1; i > 0 && i < lines.size() && !lines.get(i).equals("}"); i++) {
-            String line = lines.get(i).strip();
-            told++;
-            must(source.contains(line.endsWith(");") ? line.replace(";", " {") : line), "the source has " + line);
-        }
-        must(told == FACE.length + 2, "the document's face has " + (FACE.length + 2) + " lines, not " + told);
+    /** Of a call as the document tells it, without the names of what it is given. */
+    private static String withoutNames(String call) {
+        int open = call.indexOf('(');
+        return call.substring(0, open) + call.substring(open).replaceAll("(int|long|boolean) \\w+", "$1").replace(", ", ",");
     }
 
     private static void source() throws IOException {
         String text = Files.readString(Path.of("src/main/java/BlackBalls.java"));
         for (String word : new String[] {"->", "::", "synchronized", "assert", "catch", "finally", "throw", "package ", "@", "double", "float", "java.lang"}) {
             must(!text.contains(word), "the source has no " + word);
+        }
+        for (String call : FACE) {
+            must(text.contains("    public " + call + " {"), "the source names what is given as the document does: " + call);
         }
         for (String line : text.split("\n")) {
             must(!line.startsWith("import ") || line.equals("import java.util.Arrays;"), line);
@@ -137,7 +142,6 @@ public final class FaceTest {
         fields();
         classes();
         source();
-        asTheDocumentTells();
         System.out.println(wrong == 0 ? "the face is the document's" : wrong + " things do not hold");
         if (wrong != 0) {
             System.exit(1);
